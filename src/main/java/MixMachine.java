@@ -213,7 +213,7 @@ public final class MixMachine {
 
         /** The mask of as many bytes as the field has: its sign, in byte 0, is none. */
         private static int lowBytes(int f) {
-            int first = Math.max(f >> 3, 1);
+            int first = f < 8 ? 1 : f >> 3;
             return (1 << BYTE_BITS * ((f & 7) - first + 1)) - 1;
         }
     }
@@ -918,7 +918,8 @@ public final class MixMachine {
         JBUS("JBUS", 34, 0), IOC("IOC", 35, 0), IN("IN", 36, 0), OUT("OUT", 37, 0), JRED("JRED", 38, 0),
         JMP("JMP", 39, 0), JSJ("JSJ", 39, 1), JOV("JOV", 39, 2), JNOV("JNOV", 39, 3), JL("JL", 39, 4),
         JE("JE", 39, 5), JG("JG", 39, 6), JGE("JGE", 39, 7), JNE("JNE", 39, 8), JLE("JLE", 39, 9),
-        JN("J?N", 40, 0), JZ("J?Z", 40, 1), JP("J?P", 40, 2), JNN("J?NN", 40, 3), JNZ("J?NZ", 40, 4), JNP("J?NP", 40, 5),
+        JN("J?N", 40, 0), JZ("J?Z", 40, 1), JP("J?P", 40, 2),
+        JNN("J?NN", 40, 3), JNZ("J?NZ", 40, 4), JNP("J?NP", 40, 5),
         INC("INC?", 48, 0), DEC("DEC?", 48, 1), ENT("ENT?", 48, 2), ENN("ENN?", 48, 3), CMP("CMP?", 56, 5),
         EQU("EQU", 64, 0), ORIG("ORIG", 64, 0), CON("CON", 64, 0), END("END", 64, 0);
 
@@ -996,6 +997,7 @@ public final class MixMachine {
             words = new int[PLACES];
             literals = new int[LITERALS];
             latestHere = new int[DIGITS];
+            operation = Operation.NOP;
             lineAtHand = NONE;
         }
 
