@@ -10,6 +10,9 @@ public final class AssembleTest {
         labels();
         withoutEnd();
         end();
+        longestText();
+        beginsAnew();
+        nothingBehindTheText();
         Check.end();
     }
 
@@ -86,10 +89,13 @@ public final class AssembleTest {
         Check.wrongIn(2, " NOP * 5,", " NOPE", " END 0");
         Check.wrongIn(1, " NOP,1", " END 0");
         Check.wrongIn(1, " NOPXXXX", " END 0");
+        Check.wrongIn(1, " XOP", " END 0");
+        Check.wrongIn(1, " NO", " END 0");
+        Check.wrongIn(1, " LD", " END 0");
     }
 
     private static void labels() {
-        Check.right("A NOP", "ABCDEF NOP", "123A45 NOP", "H1 NOP", "12H NOP", "1HH NOP", "1A NOP", "H NOP", "0H NOP", "9H NOP", "9H NOP", " END 0");
+        Check.right("A NOP", "ABCDEF NOP", "123A45 NOP", "H1 NOP", "12H NOP", "1HH NOP", "1A NOP", "H NOP", "AH NOP", "AB NOP", "AF NOP", "0H NOP", "9H NOP", "9H NOP", " END 0");
         Check.wrongIn(1, "ABCDEFG NOP", " END 0");
         Check.wrongIn(1, "123 NOP", " END 0");
         Check.wrongIn(1, "1B NOP", " END 0");
@@ -125,5 +131,50 @@ public final class AssembleTest {
         Check.wrongIn(2, " ORIG -1", " CON 0", " END 0");
         Check.right(" ORIG 199", " NOP", " ORIG 5000", " END 0");
         Check.right(" ORIG -7", "A ORIG 7", " END 0");
+    }
+
+    private static void longestText() {
+        Check.wrongIn(242, "\n".repeat(240));
+        Check.right("\n".repeat(234) + " END 0");
+        Check.right(" END 0" + " ".repeat(234));
+        Check.right(" END " + "0+".repeat(117) + "0");
+        Check.wrongIn(1, " END 0" + "+0".repeat(116) + "+");
+        Check.wrongIn(1, "A" + " ".repeat(239));
+        Check.wrongIn(1, "A".repeat(240));
+    }
+
+    private static void beginsAnew() {
+        MixMachine m = new MixMachine();
+        String text = Check.lines(" LDA =5=", " JMP A", " JMP 1F", "1H NOP", " END 0");
+        Check.type(m, Check.lines(" JMP 1F", " LDA =7=", "2H JMP B", " ORIG 100", " FOO", " END 0"));
+        Check.refuses("FOO", Check.ARGUMENT, () -> m.assemble());
+        for (int i = 0; i < 30; i++) {
+            Check.type(m, text);
+            Check.same("start", m.assemble(), 0);
+            int[] due = {Check.code(5, 0, 5, 8), Check.code(4, 0, 0, 39), Check.code(3, 0, 0, 39), 0, 0, 10, 0};
+            for (int place = 0; place < due.length; place++) {
+                Check.same("word " + place, m.word(place), due[place]);
+            }
+            Check.refuses("B is gone", Check.ELEMENT, () -> m.symbol('B'));
+            Check.same("A", m.symbol('A'), Check.word(4));
+        }
+        Check.type(m, Check.lines(" JMP 2B", " END 0"));
+        Check.refuses("a B of an assembling before", Check.ARGUMENT, () -> m.assemble());
+    }
+
+    /** What an erased text had there does not count. */
+    private static void nothingBehindTheText() {
+        String[] behind = {"7", "+1", "*5", "(5)", ",1", "x", " 5", "\nA", "B"};
+        for (String old : behind) {
+            MixMachine m = new MixMachine();
+            Check.type(m, " END 1" + old);
+            Check.type(m, " END 1");
+            Check.same("start", m.assemble(), 1);
+        }
+        MixMachine m = new MixMachine();
+        Check.type(m, " END 0");
+        Check.type(m, " ");
+        Check.refuses("no END", Check.ARGUMENT, () -> m.assemble());
+        Check.same("line", m.line(), 2);
     }
 }

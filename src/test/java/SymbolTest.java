@@ -57,6 +57,8 @@ public final class SymbolTest {
         Check.same("F of an EQU", m.word(4), Check.bytes(-1, 0, 9, 1, 3, 8));
         Check.wrongIn(1, " LDA 1B", "1H NOP", " END 0");
         Check.wrongIn(2, " LDA 1F", " END 0");
+        Check.wrongIn(2, " LDA 0F", " END 0");
+        Check.wrongIn(2, " LDA 9F", " END 0");
         Check.wrongIn(2, "1H LDA 1F", " END 0");
         Check.wrongIn(3, "1H LDA 2F", "1H NOP", " END 0", " NOP");
         Check.right("1H LDA 0F", "0H ORIG 100", " END 0");
