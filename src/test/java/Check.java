@@ -5,14 +5,29 @@ final class Check {
     static final Class<IndexOutOfBoundsException> BOUNDS = IndexOutOfBoundsException.class;
     static final Class<java.util.NoSuchElementException> ELEMENT = java.util.NoSuchElementException.class;
     private static int wrong = 0;
+    private static String sentence = "";
+
+    /** Something that is done with a machine. */
+    interface Use {
+        void of(MixMachine m);
+    }
 
     private Check() {
     }
 
+    /** The document's sentence that the next checks are about; it is told with each answer that is wrong. */
+    static void sentence(String words) {
+        sentence = words;
+    }
+
+    private static void tell(String fault) {
+        wrong++;
+        System.out.println((sentence.isEmpty() ? "" : "\"" + sentence + "\": ") + fault);
+    }
+
     static void same(String what, long got, long due) {
         if (got != due) {
-            wrong++;
-            System.out.println(what + " answered " + got + ", due is " + due);
+            tell(what + " answered " + got + ", due is " + due);
         }
     }
 
@@ -29,8 +44,7 @@ final class Check {
             got = e.getClass();
         }
         if (got != due) {
-            wrong++;
-            System.out.println(what + " threw " + got + ", due is " + due);
+            tell(what + " threw " + got + ", due is " + due);
         }
     }
 
@@ -85,8 +99,7 @@ final class Check {
         try {
             m.assemble();
         } catch (IllegalArgumentException e) {
-            wrong++;
-            System.out.println("line " + m.line() + " was wrong, due is none, of:\n" + lines(lines));
+            tell("line " + m.line() + " was wrong, due is none, of:\n" + lines(lines));
         }
         return m;
     }
@@ -126,5 +139,106 @@ final class Check {
         m.poke(100, w);
         same(instruction + ": steps", m.step(1), due);
         return m;
+    }
+
+    /** A machine that goes at place 0, with the instruction there, and with A, X, I1 and the word in place 100. */
+    static MixMachine loaded(int instruction, int a, int x, int i1, int w) {
+        MixMachine m = new MixMachine();
+        int[] words = {code(196, 0, 5, 8), code(197, 0, 5, 15), code(198, 0, 5, 9), code(0, 0, 1, 39), 0, 0, a, x, i1};
+        for (int i = 0; i < words.length; i++) {
+            m.poke(190 + i, words[i]);
+        }
+        m.poke(0, instruction);
+        m.poke(100, w);
+        m.go(190);
+        same("loading", m.step(4), 4);
+        return m;
+    }
+
+    /** An instruction with a minus address. */
+    static int minusCode(int address, int index, int f, int operation) {
+        return code(address, index, f, operation) | 1;
+    }
+
+    /** An instruction whose address is minus when it is below 0. */
+    static int codeAt(int address, int index, int f, int operation) {
+        return address < 0 ? minusCode(-address, index, f, operation) : code(address, index, f, operation);
+    }
+
+    /** A machine that has used all its parts; no unit is busy, two cards are there, and it goes at place 171. */
+    static MixMachine used() {
+        MixMachine m = assembled(" ORIG 150", " LDA 180", " LDX 181", " LD1 182", " LD2 183", " LD3 184", " LD4 185", " LD5 186", " LD6 187",
+            " DECA 9", " CMPA 181", " OUT 180(18)", " OUT 180", " JMP A", "A NOP", "B EQU -7", " END 150");
+        int[] words = {word(-1073741820), word(777), word(110), word(2), word(-3), word(4), word(5), word(-6), 88, 89};
+        for (int i = 0; i < words.length; i++) {
+            m.poke(180 + i, words[i]);
+        }
+        m.poke(100, bytes(-1, 11, 12, 13, 14, 15));
+        m.card(31, 32, 33, 34);
+        m.card(41, 42, 43, 44);
+        m.step(21);
+        return m;
+    }
+
+    /** A machine of the same state for each call, and the call is refused and changes nothing. */
+    static void changesNothing(String what, Use before, Class<? extends RuntimeException> due, Use call) {
+        MixMachine left = used();
+        before.of(left);
+        MixMachine called = used();
+        before.of(called);
+        refuses(what, due, () -> call.of(called));
+        same(what + ": line", called.line(), left.line());
+        same(what + ": stopped", called.state(4), left.state(4));
+        looksLike(what, called, left);
+    }
+
+    /** All that can be seen is the same, but for line() and whether it has stopped; neither is of use behind this. */
+    static void looksLike(String what, MixMachine got, MixMachine due) {
+        String[] seen = seen(got).split("\n");
+        String[] wanted = seen(due).split("\n");
+        for (int i = 0; i < wanted.length; i++) {
+            if (!seen[i].equals(wanted[i])) {
+                tell(what + " left " + seen[i] + ", due is " + wanted[i]);
+            }
+        }
+    }
+
+    /** In some 340 calls. */
+    private static String seen(MixMachine m) {
+        StringBuilder all = new StringBuilder();
+        for (int what : new int[] {0, 1, 2, 3, 5, 6, 7}) {
+            see(all, "state " + what, () -> m.state(what));
+        }
+        for (int r = 0; r <= 8; r++) {
+            all.append("register ").append(r).append(": ").append(m.register(r)).append('\n');
+        }
+        for (int place = 0; place < 200; place++) {
+            all.append("word ").append(place).append(": ").append(m.word(place)).append('\n');
+        }
+        for (int i = 0; i < 60; i++) {
+            all.append("tape ").append(i).append(": ").append(m.tape(i / 10, i % 10)).append('\n');
+        }
+        for (int i = 0; i < Math.min(8, m.state(5)) * 6; i++) {
+            all.append("printed ").append(i).append(": ").append(m.printed(i / 6, i % 6)).append('\n');
+        }
+        for (String name : new String[] {"A", "B", "C"}) {
+            see(all, "symbol " + name, () -> m.symbol(pack(name)));
+        }
+        see(all, "card", () -> m.card(1, 2, 3, 4));
+        see(all, "assemble", () -> m.assemble());
+        see(all, "line behind it", () -> m.line());
+        see(all, "write", () -> m.write('*', 1));
+        see(all, "erase", () -> m.erase());
+        return all.toString();
+    }
+
+    private static void see(StringBuilder all, String what, java.util.function.IntSupplier call) {
+        all.append(what).append(": ");
+        try {
+            all.append(call.getAsInt());
+        } catch (RuntimeException e) {
+            all.append(e.getClass().getSimpleName());
+        }
+        all.append('\n');
     }
 }
