@@ -17,12 +17,16 @@ final class Check {
 
     /** The document's sentence that the next checks are about; it is told with each answer that is wrong. */
     static void sentence(String words) {
-        sentence = words;
+        sentence = '"' + words + '"';
+    }
+
+    static void sentence(String words, String remark) {
+        sentence = '"' + words + "\" (" + remark + ")";
     }
 
     private static void tell(String fault) {
         wrong++;
-        System.out.println((sentence.isEmpty() ? "" : "\"" + sentence + "\": ") + fault);
+        System.out.println((sentence.isEmpty() ? "" : sentence + ": ") + fault);
     }
 
     static void same(String what, long got, long due) {

@@ -174,7 +174,7 @@ public final class LineBoundsTest {
     }
 
     private static void labelsOfTwoCharacters() {
-        Check.sentence("but not a digit with H, B or F behind it; a label is a symbol without a value, or a digit and H");
+        Check.sentence("but not a digit with H, B or F behind it.");
         for (char digit = '0'; digit <= '9'; digit++) {
             for (char c : CAPITALS_AND_DIGITS.toCharArray()) {
                 boolean isDigit = c >= '0' && c <= '9';
@@ -266,7 +266,7 @@ public final class LineBoundsTest {
     }
 
     private static void operationNames() {
-        Check.sentence("OPERATIONS: EQU, ORIG, CON, END, ..; and instructions: NOP ADD .. CMPr; r (A, 1 .. 6, X)");
+        Check.sentence("and instructions: NOP ADD SUB MUL DIV NUM CHAR HLT SLA SRA SLAX SRAX SLC SRC MOVE STJ STZ JBUS IOC IN OUT JRED, those of 39, and with r (A, 1 .. 6, X): LDr LDrN STr JrN JrZ JrP JrNN JrNZ JrNP INCr DECr ENTr ENNr CMPr.");
         Map<String, Integer> all = operations();
         Check.same("instructions", all.size(), 32 + 14 * 8);
         List<String> names = new ArrayList<>();
@@ -308,7 +308,7 @@ public final class LineBoundsTest {
     }
 
     private static void directivesNeedAnAddressPart() {
-        Check.sentence("EQU, ORIG, CON, END, with a W as address part (there must be one)");
+        Check.sentence("as address part (there must be one)");
         for (String line : new String[] {"A EQU", "A EQU ", " ORIG", " ORIG   ", " CON", " CON ", " END", " END ", "A EQU ,", " CON (5)", " ORIG ()", " END ,5", " CON =5=", " ORIG 5,1,", " CON 1F"}) {
             Check.wrongIn(1, line, " END 0");
         }
@@ -401,7 +401,7 @@ public final class LineBoundsTest {
     }
 
     private static void orderOfParts() {
-        Check.sentence("Their address part: perhaps an A-PART; perhaps \",\" and ..; perhaps \"(\" ..");
+        Check.sentence("Their address part: perhaps an A-PART; perhaps \",\" and an expression, the index, 0 .. 6; perhaps \"(\", an expression 0 .. 63, and \")\", the F.");
         for (String part : new String[] {"5(1),2", ",1,2", "(1),2", "5,1(2)3", "5,1,", ",", "(", ")", "5,(1)", "5,1()", "=5=6", "=5=A", "=5==5=", "A(1),1", "1F,", "1F("}) {
             Check.wrongIn(2, "A EQU 1", " LDA " + part, "1H NOP", " END 0");
         }

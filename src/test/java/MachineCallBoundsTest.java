@@ -24,6 +24,7 @@ public final class MachineCallBoundsTest {
         stateNumbers();
         stateOfOneThatIsStuck();
         stateOfOneThatStopped();
+        toggleAndIndicator();
         Check.end();
     }
 
@@ -50,7 +51,7 @@ public final class MachineCallBoundsTest {
     }
 
     private static void numberOfSteps() {
-        Check.sentence("Up to n (1 .. 500) steps; IllegalArgumentException, when n is not so");
+        Check.sentence("IllegalArgumentException, when n is not so");
         for (int n : new int[] {1, 2, 499, 500}) {
             MixMachine m = circling();
             Check.same("step " + n, m.step(n), n);
@@ -89,7 +90,7 @@ public final class MachineCallBoundsTest {
     }
 
     private static void stepExceptionsInOrder() {
-        Check.sentence("Of several exceptions of a call the one that is listed first is thrown. (step)");
+        Check.sentence("Of several exceptions of a call the one that is listed first is thrown.", "step");
         Check.changesNothing("by HLT", m -> halt(m), Check.ARGUMENT, m -> m.step(0));
         Check.changesNothing("by HLT", m -> halt(m), Check.ARGUMENT, m -> m.step(501));
         Check.changesNothing("stuck", m -> makeStuck(m), Check.ARGUMENT, m -> m.step(-1));
@@ -126,7 +127,7 @@ public final class MachineCallBoundsTest {
     }
 
     private static void goPlaces() {
-        Check.sentence("IllegalArgumentException, when there is no such place. (go)");
+        Check.sentence("IllegalArgumentException, when there is no such place.", "go");
         MixMachine m = new MixMachine();
         for (int place : new int[] {0, 1, 198, 199}) {
             m.go(place);
@@ -266,7 +267,7 @@ public final class MachineCallBoundsTest {
     }
 
     private static void sixCards() {
-        Check.sentence("A card is given behind others: how many there are. IllegalStateException, when there are six.");
+        Check.sentence("IllegalStateException, when there are six.");
         MixMachine m = Check.assembled(" IN 100(16)", " JMP 0", " END 0");
         for (int i = 1; i <= 6; i++) {
             Check.same("card " + i, m.card(i, i, i, i), i);
@@ -328,7 +329,7 @@ public final class MachineCallBoundsTest {
     }
 
     private static void printedWords() {
-        Check.sentence("Word i of the k-th; IndexOutOfBoundsException, when there is none.");
+        Check.sentence("IndexOutOfBoundsException, when there is none.", "word i of a line");
         MixMachine m = printed(3);
         for (int i = 1; i < 6; i++) {
             Check.same("word " + i, m.printed(0, i), 50 + i);
@@ -409,6 +410,18 @@ public final class MachineCallBoundsTest {
         Check.same("none is done there", behind.step(1), 0);
         Check.same("stuck at 200", behind.state(4), 2);
         Check.same("place 200", behind.state(0), 200);
+    }
+
+    private static void toggleAndIndicator() {
+        Check.sentence("1 when the toggle is on, else 0 (2), the indicator (3)");
+        MixMachine m = Check.assembled(" CMPA 20", " CMPA 21", " CMPA 22", " LDA 20", " ADD 20", " JOV *+1", " ORIG 20", " CON 32767*32769", " CON -1", " CON -1(0)", " END 0");
+        int[] indicators = {0, -1, 1, 0, 0, 0, 0};
+        int[] toggles = {0, 0, 0, 0, 0, 1, 0};
+        for (int i = 0; i < 7; i++) {
+            Check.same("indicator behind " + i, m.state(3), indicators[i]);
+            Check.same("toggle behind " + i, m.state(2), toggles[i]);
+            m.step(1);
+        }
     }
 
     private static void stateOfOneThatStopped() {

@@ -1,6 +1,7 @@
 /** Promise 1: all as at first, stopped at place 0. */
 public final class NewObjectTest {
     public static void main(String[] args) {
+        Check.sentence("All as at first; stopped at place 0.");
         MixMachine m = new MixMachine();
         Check.same("NONE", MixMachine.NONE, -1);
         for (int place = 0; place < 200; place++) {

@@ -19,6 +19,7 @@ public final class ProgramBoundsTest {
         fieldsOfW();
         wordsOfW();
         placeAtFirst();
+        placeGrows();
         equLabels();
         equValues();
         labelIsThePlaceBefore();
@@ -86,7 +87,7 @@ public final class ProgramBoundsTest {
     }
 
     private static void expressionsFromTheLeft() {
-        Check.sentence("EXPRESSION: perhaps + or -, an ATOM, and any times one of + - * / : and an atom, from the left");
+        Check.sentence("and any times one of + - * / : (8 times the left side, plus the right one) and an atom, from the left.");
         value("1+2*3", 9);
         value("2*3+1", 7);
         value("1-2-3", -4);
@@ -322,6 +323,22 @@ public final class ProgramBoundsTest {
         Check.same("at first again", m.assemble(), 0);
     }
 
+    private static void placeGrows() {
+        Check.sentence("ORIG: the place becomes the value, CON: its word stands at the place, an instruction likewise, and the place grows by 1");
+        MixMachine m = Check.assembled(" CON 7", " NOP 8", " ORIG *+3", " CON *", " ORIG *-1", " CON 9", " ORIG 0", " CON 1(1:1)", " END *");
+        Check.same("the later one stands", m.word(0), Check.bytes(1, 1, 0, 0, 0, 0));
+        Check.same("an instruction", m.word(1), Check.code(8, 0, 0, 0));
+        Check.same("none", m.word(2), 0);
+        Check.same("over the one before", m.word(5), Check.word(9));
+        Check.same("the place at END", m.state(0), 1);
+        Check.same("ORIG of minus 0", Check.assembled(" ORIG -1(0)", "A CON 5", " END A").word(0), 10);
+        for (String value : new String[] {"32767*32769", "-32767*32769", "200", "-1", "0", "199"}) {
+            MixMachine far = Check.assembled(" ORIG " + value, "A EQU *", "B ORIG 0", " END 0");
+            Check.same("EQU *", far.symbol('A'), far.symbol('B'));
+            Check.same("ORIG " + value, far.symbol('A'), Check.assembled("A EQU " + value, " END 0").symbol('A'));
+        }
+    }
+
     private static void equLabels() {
         Check.sentence("EQU gives its label, which there must be (a digit and H, too), the value.");
         Check.wrongIn(1, " EQU 5", " END 0");
@@ -335,7 +352,7 @@ public final class ProgramBoundsTest {
     }
 
     private static void equValues() {
-        Check.sentence("EQU gives its label the value");
+        Check.sentence("EQU gives its label, which there must be (a digit and H, too), the value.", "each value");
         String[] values = {"0", "-1(0)", "4095", "4096", "-4096", "32767*32769", "-32767*32769"};
         int[] due = {0, 1, 8190, 8192, 8193, 2 * ALL, 2 * ALL + 1};
         for (int i = 0; i < values.length; i++) {
@@ -405,7 +422,12 @@ public final class ProgramBoundsTest {
     }
 
     private static void starts() {
-        Check.sentence("the start are 0 .. 199");
+        Check.sentence("the program's START is its value");
+        Check.same("a symbol", Check.assembled("A EQU 150", " END A+1").state(0), 151);
+        Check.same("a B", Check.assembled(" NOP", "1H NOP", " END 1B").state(0), 1);
+        Check.same("the place at hand", Check.assembled(" NOP", " NOP", " END *").state(0), 2);
+        Check.wrongIn(2, " ORIG 200", " END *");
+        Check.sentence("and the start are 0 .. 199.");
         for (int start = -3; start <= 210; start++) {
             if (start >= 0 && start < 200) {
                 Check.same("start " + start, Check.assembled(" END " + start).state(0), start);
@@ -448,7 +470,7 @@ public final class ProgramBoundsTest {
     }
 
     private static void symbolsAtEnd() {
-        Check.sentence("then each symbol without a value gets the place, in the order in which they came, and plus 0 stands there");
+        Check.sentence("then each symbol without a value gets the place, in the order in which they came (what waits for it is filled in first), and plus 0 stands there");
         MixMachine m = new MixMachine();
         for (int i = 0; i < 12; i++) {
             m.poke(i, 99);
@@ -483,7 +505,7 @@ public final class ProgramBoundsTest {
     }
 
     private static void noPlaceAtEnd() {
-        Check.sentence("no place for one at END, is wrong in the line where it comes");
+        Check.sentence("or no place for one at END, is wrong in the line where it comes", "END's line");
         Check.right(" LDA A", " ORIG 199", " END 0");
         Check.right(" LDA =5=", " ORIG 199", " END 0");
         Check.right(" LDA A", " LDA =5=", " ORIG 198", " END 0");

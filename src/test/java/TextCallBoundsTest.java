@@ -58,7 +58,7 @@ public final class TextCallBoundsTest {
     }
 
     private static void noCharacters() {
-        Check.sentence("or one of them is no character (32 .. 126, and 10)");
+        Check.sentence("or one of them is no character");
         for (int c = 0; c < 256; c++) {
             boolean isCharacter = c >= 32 && c <= 126 || c == 10;
             for (int at = 0; at < 8; at++) {
@@ -95,7 +95,7 @@ public final class TextCallBoundsTest {
     }
 
     private static void argumentBeforeState() {
-        Check.sentence("Of several exceptions of a call the one that is listed first is thrown. (write)");
+        Check.sentence("Of several exceptions of a call the one that is listed first is thrown.", "write");
         MixMachine m = new MixMachine();
         Check.type(m, FULL);
         Check.refuses("n 0", Check.ARGUMENT, () -> m.write(Check.pack("AAAAAAAA"), 0));
@@ -106,7 +106,7 @@ public final class TextCallBoundsTest {
     }
 
     private static void refusedWrites() {
-        Check.sentence("Nothing is promised beyond the answers and state changes described above (a refused write)");
+        Check.sentence("Nothing is promised beyond the answers and state changes described above", "a write that is refused");
         Check.changesNothing("n 0", m -> { }, Check.ARGUMENT, m -> m.write('A', 0));
         Check.changesNothing("no character", m -> { }, Check.ARGUMENT, m -> m.write('A' | 127 << 8, 2));
         Check.changesNothing("full", m -> Check.type(m, " END 5" + " ".repeat(234)), Check.STATE, m -> m.write('A', 1));

@@ -71,7 +71,7 @@ public final class UnitBoundsTest {
     }
 
     private static void wholeTape() {
-        Check.sentence("on the tape it is the block where that is, and it is at the next one then");
+        Check.sentence("on the tape it is the block where that is (stuck behind the last one), and it is at the next one then");
         MixMachine m = at0();
         for (int block = 0; block < 6; block++) {
             for (int i = 0; i < 10; i++) {
@@ -175,7 +175,7 @@ public final class UnitBoundsTest {
     }
 
     private static void linesPrinted() {
-        Check.sentence("a line is PRINTED; lines that were printed (5)");
+        Check.sentence("a line is PRINTED.");
         MixMachine m = at0();
         for (int n = 1; n <= 17; n++) {
             m.poke(194, 1000 + n);
@@ -245,7 +245,7 @@ public final class UnitBoundsTest {
     }
 
     private static void busyForOneUnitAlone() {
-        Check.sentence("in these IOC, IN, OUT of it WAIT (of another unit they do not)");
+        Check.sentence("in these IOC, IN, OUT of it WAIT", "not of another unit");
         for (int[] first : WORKS) {
             for (int[] second : WORKS) {
                 MixMachine m = at0(Check.code(100, 0, first[1], first[0]), Check.code(100, 0, second[1], second[0]));
@@ -257,7 +257,7 @@ public final class UnitBoundsTest {
     }
 
     private static void stuckIsNotBusy() {
-        Check.sentence("steps behind one that did this (one that is stuck did not)");
+        Check.sentence("steps behind one that did this", "one that is stuck did not");
         int[] wrong = {Check.code(191, 0, 0, IN), Check.code(191, 0, 0, OUT), Check.code(197, 0, 16, IN), Check.code(195, 0, 18, OUT), Check.code(1, 0, 16, IOC),
             Check.code(1, 0, 16, OUT), Check.code(1, 0, 18, IN), Check.code(1, 7, 0, IOC), Check.code(1, 7, 18, IOC)};
         for (int w : wrong) {
@@ -340,7 +340,7 @@ public final class UnitBoundsTest {
     }
 
     private static void waitingIsNoWork() {
-        Check.sentence("steps behind one that did this (one that waited did not)");
+        Check.sentence("steps behind one that did this", "one that waited did not");
         for (int[] work : WORKS) {
             int busy = busyStepsOf(work[1]);
             MixMachine m = at0(Check.code(2, 0, work[1], work[0]), Check.code(100, 0, work[1], work[0]));
@@ -356,7 +356,7 @@ public final class UnitBoundsTest {
     }
 
     private static void timeOfWaiting() {
-        Check.sentence("steps that were done since the beginning (1); steps that waited (7)");
+        Check.sentence("steps that waited (7)");
         MixMachine m = at0(Check.code(100, 0, 18, OUT), Check.code(100, 0, 18, OUT), Check.code(100, 0, 18, OUT), Check.code(0, 0, 2, 5));
         Check.same("1, 6, 1, 6, 1, HLT", m.step(500), 16);
         Check.same("time", m.state(1), 16);

@@ -16,11 +16,12 @@ public final class WaitBoundsTest {
         withoutEnd();
         digitThatWaitsAtEnd();
         firstWrongLine();
+        eachTextByItself();
         Check.end();
     }
 
     private static void magnitudesWaitedFor() {
-        Check.sentence("An A-part that had to wait is what it refers to (.. magnitude, below 4096, else the line by which it came is wrong");
+        Check.sentence("An A-part that had to wait is what it refers to, as soon as that has its value (its word's sign, also of 0, and magnitude, below 4096");
         for (int value : new int[] {-4095, -4094, -1, 0, 1, 4094, 4095}) {
             MixMachine m = Check.assembled(" LDA A,3(7)", " STX 1F,2", "A EQU " + value, "1H EQU " + value, " END 0");
             Check.same("a symbol of " + value, m.word(0), Check.codeAt(value, 3, 7, 8));
@@ -123,7 +124,7 @@ public final class WaitBoundsTest {
     }
 
     private static void symbolLimit() {
-        Check.sentence("At most 30 symbols (one too many is wrong in the line where it comes)");
+        Check.sentence("At most 30 symbols", "one too many is wrong in its line");
         for (int count : new int[] {29, 30}) {
             Check.right(labels(count) + " END 0");
             Check.right(references(count) + " END 0");
@@ -145,7 +146,7 @@ public final class WaitBoundsTest {
     }
 
     private static void symbolsThatAreNone() {
-        Check.sentence("At most 30 symbols (a digit's H, B and F are none, nor one that has come before)");
+        Check.sentence("At most 30 symbols", "a digit's H, B and F are none, nor one that has come before");
         Check.right(labels(30) + "1H IN\n IN 1B\n IN 2F\n2H IN\n END 0");
         Check.right(labels(30) + " IN A\n IN AD\n END A");
         Check.right(references(30) + " IN A\n IN AD\nA IN\nAD IN\n END A");
@@ -153,7 +154,7 @@ public final class WaitBoundsTest {
     }
 
     private static void symbolsThatEndPlaces() {
-        Check.sentence("At most 30 symbols; each symbol without a value gets the place, in the order in which they came");
+        Check.sentence("each symbol without a value gets the place, in the order in which they came", "thirty of them");
         MixMachine m = Check.assembled(references(30) + " END 0");
         for (int i = 0; i < 30; i++) {
             Check.same("symbol " + name(i), m.symbol(Check.pack(name(i))), Check.word(30 + i));
@@ -164,7 +165,7 @@ public final class WaitBoundsTest {
     }
 
     private static void literalLimit() {
-        Check.sentence("20 literals (one too many is wrong in the line where it comes)");
+        Check.sentence("20 literals", "one too many is wrong in its line");
         for (int count : new int[] {19, 20}) {
             MixMachine m = Check.assembled(" IN =3=\n".repeat(count) + " END 0");
             for (int i = 0; i < count; i++) {
@@ -182,7 +183,7 @@ public final class WaitBoundsTest {
     }
 
     private static void literalsWithSymbols() {
-        Check.sentence("At most 30 symbols, 20 literals: each by itself");
+        Check.sentence("At most 30 symbols, 20 literals", "each by itself");
         StringBuilder text = new StringBuilder();
         for (int i = 0; i < 24; i++) {
             text.append(name(i)).append(" IN").append(i < 13 ? " =3=" : "").append('\n');
@@ -196,7 +197,7 @@ public final class WaitBoundsTest {
     }
 
     private static void manyThatWait() {
-        Check.sentence("60 that wait in all, be it for something that has come (no text has room for more than 39)");
+        Check.sentence("60 that wait in all, be it for something that has come", "no right text has room for more than 39");
         MixMachine m = Check.assembled(" IN A\n".repeat(39) + " END 0");
         Check.same("240 characters", m.erase(), 240);
         for (int i = 0; i < 39; i++) {
@@ -238,8 +239,39 @@ public final class WaitBoundsTest {
         Check.wrongIn(3, " JMP 1F", "2H NOP", " END 0");
     }
 
+    private static void eachTextByItself() {
+        Check.sentence("Assembles the text", "whatever waited, or was counted, in texts before is no part of it");
+        MixMachine m = new MixMachine();
+        String[] before = {" JMP 1F", " JMP 1F\n JMP A\n LDA =5=\n FOO", references(31), " IN =3=\n".repeat(21), "1H NOP\nA NOP\n END 200", references(30) + " END 0"};
+        for (String text : before) {
+            Check.type(m, text);
+            try {
+                m.assemble();
+            } catch (IllegalArgumentException e) {
+                Check.same("line", m.line() > 0, true);
+            }
+            Check.type(m, " END 7");
+            Check.same("start", m.assemble(), 7);
+            Check.refuses("no symbol is left", Check.ELEMENT, () -> m.symbol('A'));
+            m.poke(0, 99);
+            m.poke(1, 99);
+            Check.type(m, " ORIG 1\nA EQU 5\n1H EQU 6\n END 7");
+            Check.same("start", m.assemble(), 7);
+            Check.same("nothing is filled in", m.word(0), 99);
+            Check.same("nothing is filled in", m.word(1), 99);
+        }
+        Check.type(m, " CON 1B\n END 0");
+        Check.refuses("an H of a text before", Check.ARGUMENT, () -> m.assemble());
+        for (int i = 0; i < 3; i++) {
+            Check.type(m, references(30) + " END 0");
+            Check.same("thirty symbols again", m.assemble(), 0);
+            Check.type(m, " IN =3=\n".repeat(20) + " END 0");
+            Check.same("twenty literals again", m.assemble(), 0);
+        }
+    }
+
     private static void firstWrongLine() {
-        Check.sentence("The number, from 1, of the line that was wrong (the first one, as lines are read one by one)");
+        Check.sentence("The number, from 1, of the line that was wrong", "the first one");
         Check.wrongIn(1, " FOO", " FOO", " END 300");
         Check.wrongIn(2, " JMP 1F", " FOO", " END 0");
         Check.wrongIn(2, " LDA A", " FOO", "A EQU 4096", " END 0");

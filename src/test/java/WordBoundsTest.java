@@ -5,6 +5,8 @@ public final class WordBoundsTest {
 
     public static void main(String[] args) {
         bytes();
+        minusZero();
+        partsOfAnInstruction();
         fieldValues();
         fieldsStored();
         signOfM();
@@ -24,6 +26,8 @@ public final class WordBoundsTest {
         loadedIndexes();
         loadedWithTheOtherSign();
         storedIndexes();
+        jumpsAlways();
+        placeBehindIntoJ();
         jumpsByToggle();
         jumpsByIndicator();
         jumpsByMinusZero();
@@ -53,6 +57,36 @@ public final class WordBoundsTest {
         }
         Check.same("the greatest word", done(Check.code(100, 0, 5, 8), 5, 0, 0, 2147483646).register(0), Check.word(ALL));
         Check.same("the smallest word", done(Check.code(100, 0, 5, 8), 5, 0, 0, 2147483647).register(0), Check.word(-ALL));
+    }
+
+    private static void minusZero() {
+        Check.sentence("0 may be minus 0. At the face a word is twice its magnitude, plus 1 if it is minus.");
+        for (int w : new int[] {0, 1, 2, 3, 2 * ALL, 2 * ALL + 1}) {
+            MixMachine m = done(Check.code(100, 0, 5, 24), w, w, 0, 55);
+            Check.same("poke, LDA and register", m.register(0), w);
+            Check.same("poke, LDX and register", m.register(7), w);
+            Check.same("STA and word", m.word(100), w);
+        }
+        Check.same("value of an index that is minus 0", done(Check.code(100, 1, 5, 8), 5, 5, 1, 55).register(0), 55);
+        Check.same("I1 is minus 0", done(0, 5, 5, 1, 55).register(1), 1);
+    }
+
+    private static void partsOfAnInstruction() {
+        Check.sentence("its sign and bytes 1 and 2 are an ADDRESS, byte 3 an INDEX, byte 4 F, byte 5 the operation.");
+        Check.same("byte 1 alone", done(Check.bytes(1, 1, 0, 0, 2, 48), 5, 5, 0, 0).register(0), Check.word(64));
+        Check.same("byte 2 alone", done(Check.bytes(1, 0, 1, 0, 2, 48), 5, 5, 0, 0).register(0), Check.word(1));
+        Check.same("both at their most", done(Check.bytes(1, 63, 63, 0, 2, 48), 5, 5, 0, 0).register(0), Check.word(4095));
+        Check.same("the sign", done(Check.bytes(-1, 63, 63, 0, 2, 48), 5, 5, 0, 0).register(0), Check.word(-4095));
+        Check.same("byte 3", done(Check.bytes(1, 0, 1, 1, 2, 48), 5, 5, Check.word(70), 0).register(0), Check.word(71));
+        Check.same("byte 4", done(Check.bytes(1, 0, 1, 0, 3, 48), 5, 5, 0, 0).register(0), Check.word(-1));
+        Check.same("byte 5", done(Check.bytes(1, 0, 1, 0, 2, 55), 5, 5, 0, 0).register(7), Check.word(1));
+        Check.sentence("0 NOP (any F).");
+        for (int f = 0; f < 64; f++) {
+            MixMachine m = done(Check.code(4095, 6, f, 0), 5, 7, 9, 11);
+            Check.same("place", m.state(0), 1);
+            Check.same("A", m.register(0), 5);
+            Check.same("J", m.register(8), 0);
+        }
     }
 
     /** The word that a field's value is, byte by byte. */
@@ -141,7 +175,7 @@ public final class WordBoundsTest {
     }
 
     private static void addAndSubtract() {
-        Check.sentence("A becomes A plus, minus V: if the magnitude is 64^5 or more, the toggle is on, and it is what is left by 64^5");
+        Check.sentence("if the magnitude is 64^5 or more, the toggle is on, and it is what is left by 64^5");
         for (int sign = -1; sign <= 1; sign += 2) {
             for (int operation = 1; operation <= 2; operation++) {
                 int way = operation == 1 ? sign : -sign;
@@ -171,7 +205,7 @@ public final class WordBoundsTest {
     }
 
     private static void toggleStaysOn() {
-        Check.sentence("The TOGGLE is off at first; the toggle is on");
+        Check.sentence("the toggle is on", "and stays on but for JOV and JNOV");
         int[] instructions = {Check.code(100, 0, 5, 1), Check.code(100, 0, 5, 2), Check.code(100, 0, 5, 3), Check.code(99, 0, 5, 4),
             Check.code(1, 0, 0, 48), Check.code(1, 0, 1, 55), Check.code(1, 0, 0, 49), Check.code(1, 0, 2, 48), Check.code(100, 0, 5, 56), Check.code(5, 0, 4, 39)};
         for (int instruction : instructions) {
@@ -274,7 +308,7 @@ public final class WordBoundsTest {
     }
 
     private static void characters() {
-        Check.sentence("CHAR: A's magnitude in ten digits, 30 more each: the bytes of A and X. (In all these signs stay.)");
+        Check.sentence("F 1 CHAR: A's magnitude in ten digits, 30 more each: the bytes of A and X.");
         long[] sizes = {0, 1, 9, 10, 99999, 100000, 999999999, 1000000000, ALL};
         for (long size : sizes) {
             for (int minus = 0; minus <= 1; minus++) {
@@ -351,7 +385,7 @@ public final class WordBoundsTest {
     }
 
     private static void shiftsOfAX() {
-        Check.sentence("2 SLAX, 3 SRAX: those of A and X together (In all these signs stay.)");
+        Check.sentence("2 SLAX, 3 SRAX: those of A and X together");
         for (int f = 2; f <= 3; f++) {
             for (int by : new int[] {0, 1, 4, 5, 6, 9, 10, 11, 15, 20, 21, 32, 64, 4095}) {
                 shiftedAX(f, by, by, 0, 0);
@@ -437,6 +471,55 @@ public final class WordBoundsTest {
         Check.same("STZ", done(Check.code(100, 0, 5, 33), 5, 5, 0, W).word(100), 0);
         Check.same("STZ(0:0)", done(Check.code(100, 0, 0, 33), 5, 5, 0, W).word(100), W - 1);
         Check.same("STZ(1:5)", done(Check.code(100, 0, 13, 33), 5, 5, 0, W).word(100), 1);
+    }
+
+    private static void jumpsAlways() {
+        Check.sentence("39: goes to M: F 0 JMP, 1 JSJ always");
+        for (int f = 0; f <= 1; f++) {
+            for (int to : new int[] {0, 1, 198, 199}) {
+                MixMachine m = done(Check.code(to, 0, f, 39), 5, 5, 0, 0);
+                Check.same("F " + f + " to " + to, m.state(0), to);
+                Check.same("J", m.register(8), f == 0 ? Check.word(1) : 0);
+            }
+            Check.same("to minus 0", done(Check.minusCode(0, 0, f, 39), 5, 5, 0, 0).state(0), 0);
+            for (int k = -1; k <= 1; k++) {
+                MixMachine m = Check.loaded(Check.code(100, 0, 5, 56), Check.word(k), 0, 0, 0);
+                m.poke(1, Check.code(50, 0, f, 39));
+                m.step(2);
+                Check.same("whatever the indicator is", m.state(0), 50);
+                Check.same("it stays", m.state(3), k);
+            }
+            for (int on = 0; on <= 1; on++) {
+                MixMachine m = toggled(on == 1, f, 50);
+                m.step(1);
+                Check.same("whatever the toggle is", m.state(0), 50);
+                Check.same("it stays", m.state(2), on);
+            }
+            Check.same("by an index", done(Check.minusCode(1, 1, f, 39), 5, 5, Check.word(200), 0).state(0), 199);
+        }
+    }
+
+    private static void placeBehindIntoJ() {
+        Check.sentence("Whenever it goes to M, J becomes the place behind the instruction, but for JSJ.");
+        for (int place : new int[] {0, 1, 62, 63, 64, 198, 199}) {
+            int[] jumps = {Check.code(7, 0, 0, 39), Check.code(7, 0, 3, 39), Check.code(7, 0, 5, 39), Check.code(7, 0, 1, 40), Check.code(7, 0, 3, 47), Check.code(7, 0, 5, 43), Check.code(7, 0, 16, 38)};
+            for (int jump : jumps) {
+                MixMachine m = new MixMachine();
+                m.poke(place, jump);
+                m.go(place);
+                m.step(1);
+                Check.same("place", m.state(0), 7);
+                Check.same("J behind " + place, m.register(8), Check.word(place + 1));
+                m.poke(7, Check.code(9, 0, 1, 39));
+                m.step(1);
+                Check.same("JSJ goes", m.state(0), 9);
+                Check.same("JSJ leaves J", m.register(8), Check.word(place + 1));
+                m.poke(9, Check.code(7, 0, 2, 39));
+                m.step(1);
+                Check.same("one that does not go", m.state(0), 10);
+                Check.same("leaves J", m.register(8), Check.word(place + 1));
+            }
+        }
     }
 
     private static MixMachine toggled(boolean isOn, int f, int m) {
