@@ -14,10 +14,12 @@ public final class MachineCallBoundsTest {
         goKeepsAllElse();
         pokePlaces();
         pokeWords();
+        pokeExceptionsInOrder();
         wordPlaces();
         registerNumbers();
         cardWords();
         sixCards();
+        cardExceptionsInOrder();
         printedLines();
         printedWords();
         tapeWords();
@@ -184,7 +186,7 @@ public final class MachineCallBoundsTest {
     }
 
     private static void pokePlaces() {
-        Check.sentence("IndexOutOfBoundsException, when there is no such place; IllegalArgumentException, when w is below 0.");
+        Check.sentence("IndexOutOfBoundsException, when there is no such place");
         MixMachine m = new MixMachine();
         for (int place : new int[] {0, 1, 198, 199}) {
             Check.same("poke " + place, m.poke(place, 7 + place), 0);
@@ -193,11 +195,9 @@ public final class MachineCallBoundsTest {
         }
         for (int place : new int[] {-2, -1, 200, 201}) {
             Check.refuses("poke " + place, Check.BOUNDS, () -> m.poke(place, 0));
-            Check.refuses("poke " + place + ", and no word", Check.BOUNDS, () -> m.poke(place, -1));
         }
         for (int place : FAR) {
             Check.refuses("poke " + place, Check.BOUNDS, () -> m.poke(place, 0));
-            Check.refuses("poke " + place + ", and no word", Check.BOUNDS, () -> m.poke(place, Integer.MIN_VALUE));
         }
         Check.changesNothing("poke 200", u -> { }, Check.BOUNDS, u -> u.poke(200, 5));
         Check.changesNothing("poke -1", u -> { }, Check.BOUNDS, u -> u.poke(-1, 5));
@@ -217,6 +217,20 @@ public final class MachineCallBoundsTest {
             before = w;
         }
         Check.changesNothing("poke -1", u -> { }, Check.ARGUMENT, u -> u.poke(100, -1));
+    }
+
+    private static void pokeExceptionsInOrder() {
+        Check.sentence("Of several exceptions of a call the one that is listed first is thrown.", "poke");
+        MixMachine m = new MixMachine();
+        for (int w : new int[] {-1, Integer.MIN_VALUE}) {
+            for (int place : new int[] {-1, 200, Integer.MIN_VALUE, Integer.MAX_VALUE}) {
+                Check.refuses("poke of " + w + " into " + place, Check.BOUNDS, () -> m.poke(place, w));
+            }
+            for (int place : new int[] {0, 199}) {
+                Check.refuses("poke of " + w + " into " + place, Check.ARGUMENT, () -> m.poke(place, w));
+            }
+        }
+        Check.changesNothing("poke of -1 into 200", u -> { }, Check.BOUNDS, u -> u.poke(200, -1));
     }
 
     private static void wordPlaces() {
@@ -273,8 +287,6 @@ public final class MachineCallBoundsTest {
             Check.same("card " + i, m.card(i, i, i, i), i);
         }
         Check.refuses("a seventh", Check.STATE, () -> m.card(7, 7, 7, 7));
-        Check.refuses("the word first", Check.ARGUMENT, () -> m.card(-1, 7, 7, 7));
-        Check.refuses("the word first", Check.ARGUMENT, () -> m.card(7, 7, 7, -1));
         m.step(1);
         Check.same("the oldest is gone", m.word(100), 1);
         Check.same("so there are six again", m.card(8, 8, 8, 8), 6);
@@ -288,6 +300,20 @@ public final class MachineCallBoundsTest {
         }
         Check.same("the first of an empty reader", m.card(1, 1, 1, 1), 1);
         Check.changesNothing("a seventh", u -> fillReader(u), Check.STATE, u -> u.card(1, 1, 1, 1));
+    }
+
+    private static void cardExceptionsInOrder() {
+        Check.sentence("Of several exceptions of a call the one that is listed first is thrown.", "card");
+        MixMachine m = Check.used();
+        fillReader(m);
+        Check.refuses("six, and all are words", Check.STATE, () -> m.card(0, 0, 0, 0));
+        for (int w : new int[] {-1, Integer.MIN_VALUE}) {
+            Check.refuses("six, and a is no word", Check.ARGUMENT, () -> m.card(w, 7, 7, 7));
+            Check.refuses("six, and b is no word", Check.ARGUMENT, () -> m.card(7, w, 7, 7));
+            Check.refuses("six, and c is no word", Check.ARGUMENT, () -> m.card(7, 7, w, 7));
+            Check.refuses("six, and d is no word", Check.ARGUMENT, () -> m.card(7, 7, 7, w));
+        }
+        Check.changesNothing("six, and no word", u -> fillReader(u), Check.ARGUMENT, u -> u.card(1, 1, -1, 1));
     }
 
     private static void fillReader(MixMachine m) {

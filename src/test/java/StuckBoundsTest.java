@@ -58,7 +58,11 @@ public final class StuckBoundsTest {
     }
 
     private static int goodF(int operation) {
-        return operation == 0 || operation >= 5 && operation <= 7 || operation >= 34 && operation <= 55 ? operation == 36 ? 16 : 0 : 5;
+        if (operation == 36) {
+            return 16;
+        }
+        boolean hasKinds = operation == 0 || operation >= 5 && operation <= 7 || operation >= 34 && operation <= 55;
+        return hasKinds ? 0 : 5;
     }
 
     private static void index() {
