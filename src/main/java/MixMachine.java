@@ -1025,6 +1025,7 @@ public final class MixMachine {
             }
             readLabel();
             readOperation();
+            checkLabel();
             int value = Words.of(place);
             if (labelKind == Text.SYMBOL && operation != Operation.EQU) {
                 giveValue(labelSymbol, value);
@@ -1087,6 +1088,15 @@ public final class MixMachine {
             text.openPart();
         }
 
+        /** Before the label has a value, as that could show a line above to be wrong. */
+        private void checkLabel() {
+            boolean isMissing = operation == Operation.EQU && labelKind == NO_LABEL;
+            boolean isTooMuch = operation == Operation.END && labelKind != NO_LABEL;
+            if (isMissing || isTooMuch) {
+                throw new IllegalArgumentException("EQU without a label, or END with one");
+            }
+        }
+
         /** Does what EQU, ORIG, CON or END asks, and answers its word. */
         private int readDirective() {
             int w = readW();
@@ -1106,9 +1116,6 @@ public final class MixMachine {
         }
 
         private void equate(int w) {
-            if (labelKind == NO_LABEL) {
-                throw new IllegalArgumentException("EQU without a label");
-            }
             if (labelKind == Text.SYMBOL) {
                 giveValue(labelSymbol, w);
             }
@@ -1116,8 +1123,8 @@ public final class MixMachine {
 
         private void end(int w) {
             start = Words.value(w);
-            if (labelKind != NO_LABEL || !isPlace(start)) {
-                throw new IllegalArgumentException("END with a label, or without a start");
+            if (!isPlace(start)) {
+                throw new IllegalArgumentException("no start");
             }
             ended = true;
         }

@@ -452,6 +452,11 @@ public final class ProgramBoundsTest {
             Check.wrongIn(2, "", label + " END 0");
         }
         Check.right(" END 0");
+        Check.sentence("a label of these three is the place before", "END is none of them, so nothing is filled in by its label");
+        for (int place : new int[] {4095, 4096, -4096}) {
+            Check.wrongIn(3, " LDA A", " ORIG " + place, "A END 0");
+            Check.wrongIn(3, " LDA 1F", " ORIG " + place, "1H END 0");
+        }
     }
 
     private static void nothingBehindEnd() {
